@@ -486,8 +486,7 @@ public final class LabelStation {
                 return;
             }
             rows--;
-            int end = Math.min(rows * width, cells.length - width);
-            for (int at = row * width; at < end; at++) {
+            for (int at = row * width; at < rows * width && at + width < cells.length; at++) {
                 cells[at] = cells[at + width];
             }
         }
@@ -749,7 +748,11 @@ public final class LabelStation {
                     cameraActs(record, true);
                 }
             } else if (position == place(GATE)) {
-                return gatePasses(record);
+                if (!mayPass(record)) {
+                    reject(record);
+                    return false;
+                }
+                pass(record);
             } else if (position > place(EXIT) + setting(TOLERANCE)) {
                 leaveRegister(record, records.get(record, MATCHED) == 1 ? LEFT_PASSED : LEFT_MISSING);
                 return false;
@@ -790,14 +793,13 @@ public final class LabelStation {
             }
         }
 
-        private boolean gatePasses(int record) {
-            if (records.get(record, VERDICT) == PASS && records.get(record, LABEL_FAULT) == 0) {
-                records.put(record, PASSED, 1);
-                consecutiveRejects = 0;
-                return true;
-            }
-            reject(record);
-            return false;
+        private boolean mayPass(int record) {
+            return records.get(record, VERDICT) == PASS && records.get(record, LABEL_FAULT) == 0;
+        }
+
+        private void pass(int record) {
+            records.put(record, PASSED, 1);
+            consecutiveRejects = 0;
         }
 
         private void reject(int record) {
@@ -850,10 +852,11 @@ public final class LabelStation {
 
         /** Of two equally near items, the first one found has the lower number; it is so for records, too. */
         private int itemAt(int which) {
+            int where = place(which);
             int nearest = NONE;
             int nearestGap = setting(TOLERANCE) + 1;
             for (int item = 0; item < items.count(); item++) {
-                int gap = gapTo(which, items.get(item, POSITION));
+                int gap = Math.abs(items.get(item, POSITION) - where);
                 if (gap < nearestGap) {
                     nearest = item;
                     nearestGap = gap;
@@ -863,10 +866,11 @@ public final class LabelStation {
         }
 
         private int recordForExit() {
+            int where = place(EXIT);
             int nearest = NONE;
             int nearestGap = setting(TOLERANCE) + 1;
             for (int record = 0; record < records.count(); record++) {
-                int gap = gapTo(EXIT, records.get(record, POSITION));
+                int gap = Math.abs(records.get(record, POSITION) - where);
                 boolean open = records.get(record, PASSED) == 1 && records.get(record, MATCHED) == 0;
                 if (open && gap < nearestGap) {
                     nearest = record;
@@ -874,11 +878,6 @@ public final class LabelStation {
                 }
             }
             return nearest;
-        }
-
-        private int gapTo(int which, int position) {
-            int difference = position - place(which);
-            return difference < 0 ? -difference : difference;
         }
     }
 
