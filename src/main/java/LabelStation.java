@@ -86,12 +86,14 @@ public final class LabelStation {
 
     private static final int MOST_ITEMS = 20;
     private static final int FEED_GAP = 30;
-    // Records are FEED_GAP apart and leave at 1021 at the latest, so that 35 are in the register at most.
-    private static final int MOST_RECORDS = 40;
-    // In the 100 ticks of the longest delay, 34 records pass each of the two cameras.
-    private static final int MOST_VERDICTS = 80;
-    // In the 101 ticks that an expectation can stay open, 34 records pass the gate.
-    private static final int MOST_REJECTS = 40;
+    // Records in the register are FEED_GAP apart, and leave at 1021 at the latest.
+    private static final int MOST_RECORDS = 35;
+    // For that gap, at most one record passes a place in a tick of at most 10 pulses: so there are no more
+    // verdicts than two cameras take in 100 ticks, no more items on their way than a gate diverts in 50 ticks,
+    // no more expectations than are opened in the 101 ticks from their opening to their last tick.
+    private static final int MOST_VERDICTS = 200;
+    private static final int MOST_ON_THEIR_WAY = 50;
+    private static final int MOST_EXPECTATIONS = 101;
 
     private static final int MOST_TEXT = 80;
     private static final int LAST_BYTE = 127;
@@ -542,8 +544,8 @@ public final class LabelStation {
         private final Table items = new Table(ITEM_WIDTH, MOST_ITEMS);
         private final Table records = new Table(RECORD_WIDTH, MOST_RECORDS);
         private final Table verdicts = new Table(VERDICT_WIDTH, MOST_VERDICTS);
-        private final Table binArrivals = new Table(TIMER_WIDTH, MOST_REJECTS);
-        private final Table expectations = new Table(TIMER_WIDTH, MOST_REJECTS);
+        private final Table binArrivals = new Table(TIMER_WIDTH, MOST_ON_THEIR_WAY);
+        private final Table expectations = new Table(TIMER_WIDTH, MOST_EXPECTATIONS);
         private int tick = 0;
         private boolean running = false;
         private int alarm = 0;

@@ -37,59 +37,72 @@ public final class FullStationTest {
         Check.due("most records", Math.max(most, x.status(4)), 35);
     }
 
-    private static void fullOfVerdicts() {
+    /** A record that enters at each tick, and is rejected at the fourth pulse of the next one. */
+    private static LabelStation shortStation() {
         LabelStation x = new LabelStation();
         x.setPlaces(1, 2, 3, 4, 5);
         x.set(0, 10);
-        x.set(1, 100);
         x.set(4, 20);
         x.start();
-        int taken = 0;
-        for (int number = 0; number < 60; number++) {
-            x.feed(0);
-            x.run(3);
-            if (x.status(2) == 1) {
-                x.reset();
-                x.start();
-                x.run(1);
-                x.run(2);
-            }
-            taken = Math.max(taken, x.status(5));
+        return x;
+    }
+
+    private static void runOneTick(LabelStation x) {
+        x.run(1);
+        if (x.status(2) == 1) {
+            x.reset();
+            x.start();
         }
-        Check.due("most verdicts on their way", taken >= 32, true);
-        x.stop();
-        x.run(100);
-        Check.due("all of them came late", x.counter(4), 60);
+    }
+
+    private static void fullOfVerdicts() {
+        LabelStation x = shortStation();
+        x.set(1, 100);
+        for (int number = 0; number < 100; number++) {
+            x.feed(0);
+            runOneTick(x);
+            Check.due("verdicts on their way", x.status(5), number + 1);
+        }
+        x.feed(0);
+        runOneTick(x);
+        Check.due("verdicts on their way, the first one is delivered", x.status(5), 100);
+        for (int late = 1; late <= 101; late++) {
+            Check.due("late", x.counter(4), late);
+            x.run(1);
+        }
         Check.due("none is left", x.status(5), 0);
     }
 
     private static void fullOfExpectations() {
-        LabelStation x = new LabelStation();
-        x.setPlaces(1, 2, 3, 4, 5);
-        x.set(0, 10);
-        x.set(2, 50);
+        LabelStation x = shortStation();
         x.set(3, 100);
-        x.set(4, 20);
-        x.start();
-        for (int number = 0; number < 34; number++) {
-            x.feed(1);
-            if (number % 2 == 0) {
-                x.take(number);
-            }
-            x.run(1);
-            if (x.status(2) == 1) {
-                x.reset();
-                x.start();
-            }
-            x.run(2);
+        for (int number = 0; number < 101; number++) {
+            x.feed(0);
+            x.take(number);
+            runOneTick(x);
+            Check.due("open expectations", x.status(6), number + 1);
         }
-        Check.due("rejected", x.counter(2), 34);
-        Check.due("open expectations", x.status(6), 34 - x.counter(6));
-        Check.due("on their way to the bin", x.status(7), 17 - x.counter(6));
-        x.stop();
-        x.run(200);
-        Check.due("confirmed", x.counter(6), 17);
-        Check.due("not confirmed", x.counter(15), 17);
+        x.feed(0);
+        runOneTick(x);
+        Check.due("alarms 2", x.counter(15), 1);
+        x.run(1);
+        Check.due("alarms 2", x.counter(15), 2);
+        x.run(99);
+        Check.due("alarms 2", x.counter(15), 101);
+        Check.due("open expectations", x.status(6), 0);
+
+        LabelStation y = shortStation();
+        y.set(2, 50);
+        y.set(3, 100);
+        for (int number = 0; number < 60; number++) {
+            y.feed(1);
+            runOneTick(y);
+            Check.due("on their way to the bin", y.status(7), Math.min(50, number + 1));
+            Check.due("confirmed", y.counter(6), Math.max(0, number - 49));
+        }
+        y.run(50);
+        Check.due("confirmed", y.counter(6), 60);
+        Check.due("on their way to the bin", y.status(7), 0);
     }
 
     /** Numbers go on, far above what is on the belt at once. */

@@ -5,6 +5,8 @@ public final class RandomRunsTest {
     private static final int RUNS = 600;
     private static final int CALLS = 512;
 
+    private static final int[] DENSE = {1, 5, 5, 7, 7, 7, 21, 21, 21, 22};
+
     private interface Call {
         Object made();
     }
@@ -28,20 +30,32 @@ public final class RandomRunsTest {
         Random random = new Random(seed);
         LabelStation x = new LabelStation();
         PlainStation y = new PlainStation();
-        // Some runs have wild numbers, some few calls besides feeding and running.
+        // Some runs have wild numbers, some few calls besides feeding and running, some an item at each tick.
         int style = seed % 4;
+        if (style == 2) {
+            x.setPlaces(1, 2, 3, 4, 5);
+            y.setPlaces(1, 2, 3, 4, 5);
+            x.set(0, 10);
+            y.set(0, 10);
+            x.set(4, 20);
+            y.set(4, 20);
+        }
         for (int call = 0; call < CALLS; call++) {
-            int which = random.nextInt(style == 1 ? 24 : 34);
+            int which = kind(style, random);
             long seedOfCall = random.nextLong();
             String told = "seed " + seed + ", call " + call + ", kind " + which;
             String got = answer(() -> made(x, null, which, style, new Random(seedOfCall)));
             String due = answer(() -> made(null, y, which, style, new Random(seedOfCall)));
-            if (!got.equals(due)) {
-                System.out.println(told + " answered " + got + ", due is " + due);
-            }
-            Check.due(told, got.equals(due), true);
+            Check.due(told + ", " + got + " as " + due, got.equals(due), true);
             Check.due(told + ", digest", x.digest(), y.digest());
         }
+    }
+
+    private static int kind(int style, Random random) {
+        if (style == 2 && random.nextInt(3) > 0) {
+            return DENSE[random.nextInt(DENSE.length)];
+        }
+        return random.nextInt(style == 1 ? 24 : 34);
     }
 
     /** One call on x or, without x, on y. */
@@ -94,7 +108,7 @@ public final class RandomRunsTest {
                 return real ? x.fate(a) : y.fate(a);
             case 21:
             case 22:
-                return writtenAndCarriedOut(x, y, r);
+                return writtenAndCarriedOut(x, y, style, r);
             case 23:
                 return r.nextInt(3) > 0 ? 0 : real ? x.undo() : y.undo();
             case 24:
@@ -131,7 +145,7 @@ public final class RandomRunsTest {
         }
     }
 
-    private static Object writtenAndCarriedOut(LabelStation x, PlainStation y, Random r) {
+    private static Object writtenAndCarriedOut(LabelStation x, PlainStation y, int style, Random r) {
         boolean real = x != null;
         StringBuilder answers = new StringBuilder();
         if (r.nextInt(3) > 0) {
@@ -139,8 +153,10 @@ public final class RandomRunsTest {
         }
         int length = r.nextInt(10) == 0 ? r.nextInt(90) : r.nextInt(12);
         String from = r.nextInt(10) == 0 ? "0.:x" : "0123..::::::0000";
+        boolean dense = style == 2 && r.nextInt(8) > 0;
+        length = dense ? 2 * r.nextInt(20) : length;
         for (int index = 0; index < length; index++) {
-            int value = r.nextInt(300) == 0 ? r.nextInt(400) - 100 : from.charAt(r.nextInt(from.length()));
+            int value = dense ? (index % 2 == 0 ? r.nextInt(2) + '0' : '.') : r.nextInt(300) == 0 ? r.nextInt(400) - 100 : from.charAt(r.nextInt(from.length()));
             answers.append(' ').append(answer(() -> real ? x.append(value) : y.append(value)));
         }
         return answers.append(' ').append(real ? x.carryOut() : y.carryOut()).toString();
