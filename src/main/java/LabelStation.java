@@ -132,16 +132,24 @@ public final class LabelStation {
     }
 
     public int set(int what, int value) throws IllegalArgumentException {
-        if (what < 0 || what >= LEAST_SETTING.length || what >= MOST_SETTING.length) {
+        if (what < SPEED || what > LABELS) {
             throw new IllegalArgumentException("there is no such setting");
         }
-        if (value < LEAST_SETTING[what] || value > MOST_SETTING[what]) {
+        if (value < least(what) || value > most(what)) {
             throw new IllegalArgumentException("the value is out of range");
         }
         history.save(state);
         int previous = state.setting(what);
         state.putSetting(what, value);
         return previous;
+    }
+
+    private static int least(int setting) {
+        return setting >= 0 && setting < LEAST_SETTING.length ? LEAST_SETTING[setting] : 0;
+    }
+
+    private static int most(int setting) {
+        return setting >= 0 && setting < MOST_SETTING.length ? MOST_SETTING[setting] : 0;
     }
 
     public int value(int what) throws IllegalArgumentException {
@@ -305,14 +313,14 @@ public final class LabelStation {
     // ---- predictions
 
     public int spare(int speed) throws IllegalArgumentException {
-        if (speed < LEAST_SETTING[SPEED] || speed > MOST_SETTING[SPEED]) {
+        if (speed < least(SPEED) || speed > most(SPEED)) {
             throw new IllegalArgumentException("the speed is out of range");
         }
         return sparePulses(speed);
     }
 
     public int fastest() {
-        for (int speed = MOST_SETTING[SPEED]; speed >= LEAST_SETTING[SPEED]; speed--) {
+        for (int speed = most(SPEED); speed >= least(SPEED); speed--) {
             if (sparePulses(speed) > 0) {
                 return speed;
             }

@@ -2,8 +2,16 @@
 final class Check {
     private static int wrong = 0;
     private static int asked = 0;
+    private static int sentences = 0;
+    private static String sentence = "";
 
     private Check() {
+    }
+
+    /** The sentence of the document that the next answers are about; a fault is told with it. */
+    static void sentence(String words) {
+        sentences++;
+        sentence = words;
     }
 
     static void due(String call, long got, long want) {
@@ -69,10 +77,14 @@ final class Check {
 
     /** The digest ends with the number of saved states: what is left of it when all before is taken away. */
     static int savedStates(LabelStation x) {
-        for (int saved = 0; saved <= 4; saved++) {
-            boolean free = x.digest() == 31L * digestWithoutSaved(x, 0, false) + saved;
-            if (free || x.digest() == 31L * digestWithoutSaved(x, 0, true) + saved) {
-                return saved;
+        for (int textLength = 0; textLength <= 80; textLength++) {
+            long free = x.digest() - 31L * digestWithoutSaved(x, textLength, false);
+            long jammed = x.digest() - 31L * digestWithoutSaved(x, textLength, true);
+            if (free >= 0 && free <= 4) {
+                return (int) free;
+            }
+            if (jammed >= 0 && jammed <= 4) {
+                return (int) jammed;
             }
         }
         tell("the digest fits to no number of saved states");
@@ -132,15 +144,24 @@ final class Check {
         return x;
     }
 
+    /** Moves an item by hand, by as many calls as it takes. */
+    static void move(LabelStation x, int item, int position) {
+        for (int step = 0; step < 100 && x.item(item, 0) != position; step++) {
+            int way = position - x.item(item, 0);
+            x.slip(item, Math.max(-30, Math.min(30, way)));
+        }
+    }
+
     private static void tell(String fault) {
         wrong++;
         if (wrong <= 20) {
-            System.out.println(fault);
+            System.out.println(sentence.isEmpty() ? fault : "\"" + sentence + "\": " + fault);
         }
     }
 
     static void end(String test) {
-        System.out.println(test + ": " + asked + " answers, " + wrong + " wrong");
+        String of = sentences == 0 ? "" : sentences + " sentences, ";
+        System.out.println(test + ": " + of + asked + " answers, " + wrong + " wrong");
         if (wrong != 0) {
             System.exit(1);
         }

@@ -107,19 +107,12 @@ public final class TicksTest {
         x.feed(1);
         x.run(99);
         x.jam(false);
-        move(x, 0, first - 1);
-        move(x, 1, second - 1);
+        Check.move(x, 0, first - 1);
+        Check.move(x, 1, second - 1);
         x.run(1);
         Check.due("position of 0", x.item(0, 0), first);
         Check.due("position of 1", x.item(1, 0), second);
         return x.item(0, 2) + 2 * x.item(1, 2) + 4 * x.counter(5);
-    }
-
-    private static void move(LabelStation x, int item, int position) {
-        for (int step = 0; step < 100 && x.item(item, 0) != position; step++) {
-            int way = position - x.item(item, 0);
-            x.slip(item, Math.max(-30, Math.min(30, way)));
-        }
     }
 
     private static void nearestItemIsMeant() {
@@ -449,7 +442,7 @@ public final class TicksTest {
         z.start();
         z.feed(1);
         z.run(30);
-        move(z, 0, 60);
+        Check.move(z, 0, 60);
         z.run(10);
         Check.due("alarms 1 and 4 at the same pulse", z.status(2), 1);
         Check.due("both are counted", z.counter(14) * 10 + z.counter(17), 11);
@@ -539,7 +532,7 @@ public final class TicksTest {
         x.set(5, 20);
         x.take(0);
         x.run(first - 1 - x.record(0, 0));
-        move(x, 1, 199);
+        Check.move(x, 1, 199);
         x.run(1);
         Check.due("position of record 0", x.record(0, 0), first);
         return x.record(0, 4) + 2 * x.record(1, 4) + 4 * x.counter(9);
@@ -566,7 +559,7 @@ public final class TicksTest {
         x.set(5, 20);
         x.run(10);
         Check.due("item 0 is matched with record 0", x.record(0, 4) * 10 + x.record(1, 4), 10);
-        move(x, 1, 199);
+        Check.move(x, 1, 199);
         x.run(1);
         Check.due("item 1 not with record 0 again", x.record(0, 4) * 10 + x.record(1, 4), 11);
 
@@ -624,12 +617,12 @@ public final class TicksTest {
         z.run(30);
         z.feed(0);
         z.run(30);
-        move(z, 1, 499);
-        move(z, 0, 498);
+        Check.move(z, 1, 499);
+        Check.move(z, 0, 498);
         z.run(1);
         Check.due("an item overtakes one with a lower number", z.counter(8), 1);
         Check.due("which stays", z.numberAt(0, false), 0);
-        move(z, 0, 498);
+        Check.move(z, 0, 498);
         z.reset();
         z.start();
         z.run(1);
@@ -642,8 +635,8 @@ public final class TicksTest {
         w.run(30);
         w.feed(0);
         w.run(30);
-        move(w, 1, 499);
-        move(w, 0, 499);
+        Check.move(w, 1, 499);
+        Check.move(w, 0, 499);
         w.run(1);
         Check.due("two items leave at one pulse", w.counter(8) * 10 + w.counter(17), 22);
     }
