@@ -114,6 +114,17 @@ public final class TickEdgesTest {
         y.set(1, 20);
         y.run(41);
         Check.due("a tick earlier it is in time", y.counter(4) * 10 + y.record(0, 3), 1);
+        LabelStation z = smallWith(0);
+        z.set(1, 60);
+        z.set(3, 100);
+        z.run(30);
+        z.feed(0);
+        z.run(50);
+        Check.due("the first of two late ones", z.counter(4) * 10 + z.status(5), 11);
+        z.run(29);
+        Check.due("before the second one", z.counter(4) * 10 + z.status(5), 11);
+        z.run(1);
+        Check.due("the second one", z.counter(4) * 10 + z.status(5), 20);
     }
 
     private static void passAndFail() {
@@ -161,6 +172,18 @@ public final class TickEdgesTest {
         Check.due("a tick before", x.status(7) * 10 + x.counter(6), 10);
         x.run(1);
         Check.due("at the tick", x.status(7) * 10 + x.counter(6), 1);
+        LabelStation y = smallWith(1);
+        y.set(2, 40);
+        y.set(3, 100);
+        y.run(30);
+        y.feed(1);
+        y.run(50);
+        Check.due("the first of two", y.status(7) * 10 + y.counter(6), 11);
+        y.run(29);
+        Check.due("before the second one", y.status(7) * 10 + y.counter(6), 11);
+        y.run(1);
+        Check.due("the second one", y.status(7) * 10 + y.counter(6), 2);
+        Check.due("alarm", y.status(2), 0);
     }
 
     /** Two rejects, at 40 and 70, whose items come to the bin at the same tick, 80. */
@@ -503,6 +526,17 @@ public final class TickEdgesTest {
         Check.move(x, 1, 199);
         x.run(1);
         Check.due("it is not matched again, and record 1 is 29 away", x.record(1, 4) * 10 + x.counter(9), 1);
+        LabelStation y = longWayToExit();
+        y.set(5, 20);
+        y.feed(0);
+        y.run(30);
+        y.feed(0);
+        y.run(70);
+        Check.move(y, 0, y.item(1, 0) - 1);
+        y.run(130);
+        Check.due("record 0 has left, item 1 is matched", y.counter(3) * 10 + y.record(1, 4), 11);
+        y.run(1);
+        Check.due("record 1 is not matched again", y.counter(8) * 10 + y.counter(9), 21);
     }
 
     /** Item 1 comes to the exit when record 0 is here: 1 if matched with record 0, 2 with record 1, 4 if escaped. */
